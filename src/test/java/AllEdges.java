@@ -7,13 +7,13 @@ final class AllEdges {
 
     // ---- promise 23
 
-    @Edge(promise = 23, says = "STATE: no ROPE.")
+    @Holds(promise = 23, says = "STATE: no ROPE.")
     static void noImageWithoutARope(Due d) {
         Edges.refused(d, "image()", Edges::none, x -> x.image(), Edges.STATE);
         Edges.refused(d, "image(), a rope on the page", () -> Edges.page(Edges.TWO), x -> x.image(), Edges.STATE);
     }
 
-    @Edge(promise = 23, says = "how many TIDES there were")
+    @Holds(promise = 23, says = "how many TIDES there were")
     static void imageAtTheFirstTideAndLater(Due d) {
         RopeVote x = Edges.two();
         d.is("image()", x.image(), 0);
@@ -23,7 +23,7 @@ final class AllEdges {
         d.is("image()", x.image(), 300);
     }
 
-    @Edge(promise = 23, says = "An IMAGE is kept (one; the latest)")
+    @Holds(promise = 23, says = "An IMAGE is kept (one; the latest)")
     static void onlyTheLatestImage(Due d) {
         RopeVote x = Edges.two();
         x.image();
@@ -36,7 +36,7 @@ final class AllEdges {
         d.is("mussel(0, 1)", x.mussel(0, 1), 5);
     }
 
-    @Edge(promise = 23, says = "An IMAGE is kept (one; the latest)")
+    @Holds(promise = 23, says = "An IMAGE is kept (one; the latest)")
     static void imageChangesNothingElse(Due d) {
         RopeVote x = Edges.busy();
         long before = x.digest();
@@ -48,7 +48,7 @@ final class AllEdges {
 
     // ---- promise 24
 
-    @Edge(promise = 24, says = "STATE: none was kept, or there is another ROPE since")
+    @Holds(promise = 24, says = "STATE: none was kept, or there is another ROPE since")
     static void nothingWasKept(Due d) {
         Edges.refused(d, "restore() without a rope", Edges::none, x -> x.restore(), Edges.STATE);
         Edges.refused(d, "restore()", Edges::two, x -> x.restore(), Edges.STATE);
@@ -65,7 +65,7 @@ final class AllEdges {
         return x;
     }
 
-    @Edge(promise = 24, says = "STATE: none was kept, or there is another ROPE since")
+    @Holds(promise = 24, says = "STATE: none was kept, or there is another ROPE since")
     static void anotherRopeSince(Due d) {
         Edges.refused(d, "restore()", AllEdges::anotherRope, x -> x.restore(), Edges.STATE);
         RopeVote x = Edges.two();
@@ -77,7 +77,7 @@ final class AllEdges {
         d.is("restore()", x.restore(), 0);
     }
 
-    @Edge(promise = 24, says = "STATE: none was kept, or there is another ROPE since")
+    @Holds(promise = 24, says = "STATE: none was kept, or there is another ROPE since")
     static void noOtherRopeButATextThatIsNone(Due d) {
         RopeVote x = Edges.two();
         x.image();
@@ -89,7 +89,7 @@ final class AllEdges {
         d.is("count(9)", x.count(9), 5);
     }
 
-    @Edge(promise = 24, says = "An IMAGE keeps WEIGHTS, how all LEAN, THREADS, TIDES, how often each QUESTION was asked, and CARRIED, SEEN.")
+    @Holds(promise = 24, says = "An IMAGE keeps WEIGHTS, how all LEAN, THREADS, TIDES, how often each QUESTION was asked, and CARRIED, SEEN.")
     static void allThatAnImageKeeps(Due d) {
         RopeVote x = Edges.eight();
         x.cut(7);
@@ -112,7 +112,7 @@ final class AllEdges {
         d.is("digest()", x.digest(), before);
     }
 
-    @Edge(promise = 24, says = "An IMAGE keeps WEIGHTS, how all LEAN, THREADS, TIDES, how often each QUESTION was asked, and CARRIED, SEEN.")
+    @Holds(promise = 24, says = "An IMAGE keeps WEIGHTS, how all LEAN, THREADS, TIDES, how often each QUESTION was asked, and CARRIED, SEEN.")
     static void anImageKeepsWhatIsSeenToTheLastNumber(Due d) {
         RopeVote x = Due.hung("m2000,m3+0+");
         x.see(0, 0, 205);
@@ -128,7 +128,7 @@ final class AllEdges {
         d.is("count(8)", x.count(8), 2);
     }
 
-    @Edge(promise = 24, says = "It goes on from the IMAGE")
+    @Holds(promise = 24, says = "It goes on from the IMAGE")
     static void whatIsDoneBehindRestoreLeavesTheImage(Due d) {
         RopeVote x = Edges.busy();
         x.restore();
@@ -143,7 +143,7 @@ final class AllEdges {
         d.is("digest()", x.digest(), kept);
     }
 
-    @Edge(promise = 24, says = "An IMAGE keeps WEIGHTS, how all LEAN, THREADS, TIDES, how often each QUESTION was asked, and CARRIED, SEEN.")
+    @Holds(promise = 24, says = "An IMAGE keeps WEIGHTS, how all LEAN, THREADS, TIDES, how often each QUESTION was asked, and CARRIED, SEEN.")
     static void whatAnImageDoesNotKeep(Due d) {
         RopeVote x = Edges.two();
         x.image();
@@ -158,7 +158,7 @@ final class AllEdges {
 
     // ---- promise 25
 
-    @Edge(promise = 25, says = "OUTSIDE.")
+    @Holds(promise = 25, says = "OUTSIDE.")
     static void theLastCountAndTheNext(Due d) {
         d.is("count(0)", Edges.two().count(0), 2);
         d.is("count(11)", Edges.two().count(11), 0);
@@ -168,7 +168,7 @@ final class AllEdges {
         }
     }
 
-    @Edge(promise = 25, says = "How many: 0 MUSSELS, 1 that are FELT at the rail")
+    @Holds(promise = 25, says = "How many: 0 MUSSELS, 1 that are FELT at the rail")
     static void countsOfNothing(Due d) {
         for (int what = 0; what <= 11; what++) {
             int told = what;
@@ -176,14 +176,14 @@ final class AllEdges {
         }
     }
 
-    @Edge(promise = 25, says = "How many: 0 MUSSELS, 1 that are FELT at the rail")
+    @Holds(promise = 25, says = "How many: 0 MUSSELS, 1 that are FELT at the rail")
     static void theLeastOfARope(Due d) {
         int[] due = {2, 2, 0, 2, 0, 0, 0, 0, 0, 0, 1, 0};
         RopeVote x = Due.hung("m1000,m1000");
         for (int what = 0; what <= 11; what++) d.is("count(" + what + ")", x.count(what), due[what]);
     }
 
-    @Edge(promise = 25, says = "2 THREADS that are CUT, 3 all WEIGHTS, 4 TIDES, 5 how often any QUESTION was asked, 6 CARRIED of these")
+    @Holds(promise = 25, says = "2 THREADS that are CUT, 3 all WEIGHTS, 4 TIDES, 5 how often any QUESTION was asked, 6 CARRIED of these")
     static void theMostOfARope(Due d) {
         RopeVote x = Due.hung("e9+++,e9+++,e9+++,e9+++,e9+++,e9+++,e9+++,e9+++");
         for (int q = 0; q < 3; q++) for (int time = 1; time <= 99; time++) x.ask(q);
@@ -198,14 +198,14 @@ final class AllEdges {
         for (int what = 0; what <= 11; what++) d.is("all cut, count(" + what + ")", x.count(what), cut[what]);
     }
 
-    @Edge(promise = 25, says = "7 QUESTIONS that are CARRIED now")
+    @Holds(promise = 25, says = "7 QUESTIONS that are CARRIED now")
     static void questionsThatHangAreNotCarried(Due d) {
         int[] due = {0, 0, 0, 1, 2, 3};
         String[] texts = {"m1---,m2---", "m1000,m2000", "m2+++,m2---", "m2+--,m1000", "m2++-,m1000", "m3+++,m2---"};
         for (int i = 0; i < texts.length; i++) d.is("count(7) of " + texts[i], Due.hung(texts[i]).count(7), due[i]);
     }
 
-    @Edge(promise = 25, says = "10 how often a ROPE was read")
+    @Holds(promise = 25, says = "10 how often a ROPE was read")
     static void ropesThatWereRead(Due d) {
         RopeVote x = Edges.none();
         for (int many = 1; many <= 5; many++) {
@@ -217,7 +217,7 @@ final class AllEdges {
         }
     }
 
-    @Edge(promise = 25, says = "11 how often fewTurns() was done")
+    @Holds(promise = 25, says = "11 how often fewTurns() was done")
     static void fewTurnsThatWereDone(Due d) {
         RopeVote x = Edges.none();
         x.fewTurns(0, 0, 0);
@@ -254,7 +254,7 @@ final class AllEdges {
         return h.multiply(BigInteger.valueOf(31)).add(BigInteger.valueOf(number));
     }
 
-    @Edge(promise = 26, says = "(as longs, wrapping)")
+    @Holds(promise = 26, says = "(as longs, wrapping)")
     static void digestsPastTheGreatestLong(Due d) {
         for (int many = 2; many <= 8; many++) {
             RopeVote x = Due.hung(Edges.ropeOf(many));
@@ -273,14 +273,14 @@ final class AllEdges {
         d.holds("some are above the greatest int", above);
     }
 
-    @Edge(promise = 26, says = "with a ROPE of each QUESTION")
+    @Holds(promise = 26, says = "with a ROPE of each QUESTION")
     static void digestWithoutARope(Due d) {
         d.is("digest()", Edges.none().digest(), digestOf(Edges.none(), 0, ""));
         RopeVote x = Edges.page(Edges.TWO);
         d.is("digest() of a page", x.digest(), digestOf(x, 0, Edges.TWO));
     }
 
-    @Edge(promise = 26, says = "letters of THE PAGE")
+    @Holds(promise = 26, says = "letters of THE PAGE")
     static void digestOfEmptyAndFullPages(Due d) {
         RopeVote x = Edges.two();
         d.is("an empty page, digest()", x.digest(), digestOf(x, 2, ""));
@@ -291,7 +291,7 @@ final class AllEdges {
         d.is("an empty page again, digest()", x.digest(), digestOf(x, 2, ""));
     }
 
-    @Edge(promise = 26, says = "`long digest()`")
+    @Holds(promise = 26, says = "`long digest()`")
     static void digestOnlyTells(Due d) {
         for (int time = 0; time < 3; time++) {
             RopeVote x = Edges.busy();
@@ -300,7 +300,7 @@ final class AllEdges {
         }
     }
 
-    @Edge(promise = 26, says = "An object is used for at most 512 calls after it has been made")
+    @Holds(promise = 26, says = "An object is used for at most 512 calls after it has been made")
     static void theLast512thCall(Due d) {
         RopeVote x = Edges.none();
         for (int call = 1; call <= 11; call++) x.letter(Edges.TWO.charAt(call - 1));

@@ -11,7 +11,7 @@ final class DoneEdges {
         return x;
     }
 
-    @Edge(promise = 9, says = "FULL: it was asked 99 times")
+    @Holds(promise = 9, says = "FULL: it was asked 99 times")
     static void theLastTimeItIsAskedAndTheNext(Due d) {
         RopeVote x = Due.hung("m1+-0,m1+-0");
         for (int q = 0; q < 3; q++) {
@@ -25,7 +25,7 @@ final class DoneEdges {
         d.is("count(6)", x.count(6), 99);
     }
 
-    @Edge(promise = 9, says = "FULL: it was asked 99 times")
+    @Holds(promise = 9, says = "FULL: it was asked 99 times")
     static void aFullQuestionStays(Due d) {
         Edges.refused(d, "ask(0)", DoneEdges::askedTillFull, x -> x.ask(0), Edges.FULL);
         Edges.refused(d, "ask(3)", DoneEdges::askedTillFull, x -> x.ask(3), Edges.UNKNOWN);
@@ -33,7 +33,7 @@ final class DoneEdges {
         d.is("ask(2)", askedTillFull().ask(2), 0);
     }
 
-    @Edge(promise = 9, says = "An IMAGE keeps WEIGHTS, how all LEAN, THREADS, TIDES, how often each QUESTION was asked")
+    @Holds(promise = 9, says = "An IMAGE keeps WEIGHTS, how all LEAN, THREADS, TIDES, how often each QUESTION was asked")
     static void aFullQuestionBehindRestore(Due d) {
         RopeVote x = Due.hung("m1+-0,m1+-0");
         x.ask(0);
@@ -45,14 +45,14 @@ final class DoneEdges {
         d.is("question(0, 2)", x.question(0, 2), 2);
     }
 
-    @Edge(promise = 9, says = "UNKNOWN (a number names nothing)")
+    @Holds(promise = 9, says = "UNKNOWN (a number names nothing)")
     static void askTheLastQuestionAndTheNext(Due d) {
         d.is("ask(0)", Edges.two().ask(0), 2);
         d.is("ask(2)", Edges.two().ask(2), 1);
         for (int q : Edges.around(0, 2)) Edges.refused(d, "ask(" + q + ")", Edges::busy, x -> x.ask(q), Edges.UNKNOWN);
     }
 
-    @Edge(promise = 9, says = "UNKNOWN (a number names nothing)")
+    @Holds(promise = 9, says = "UNKNOWN (a number names nothing)")
     static void askWithoutARope(Due d) {
         for (int q = 0; q < 3; q++) {
             int question = q;
@@ -60,7 +60,7 @@ final class DoneEdges {
         }
     }
 
-    @Edge(promise = 9, says = "1 CARRIED, 0 HANGS, 2 LOST")
+    @Holds(promise = 9, says = "1 CARRIED, 0 HANGS, 2 LOST")
     static void askedOfSumsNextToNothing(Due d) {
         int[] weights = {4, 5, 6};
         int[] due = {2, 0, 1};
@@ -73,7 +73,7 @@ final class DoneEdges {
         }
     }
 
-    @Edge(promise = 9, says = "1 CARRIED, 0 HANGS, 2 LOST")
+    @Holds(promise = 9, says = "1 CARRIED, 0 HANGS, 2 LOST")
     static void askedOfNobody(Due d) {
         RopeVote x = Edges.eight();
         x.cut(0);
@@ -82,13 +82,13 @@ final class DoneEdges {
 
     // ---- promise 10
 
-    @Edge(promise = 10, says = "STATE: no ROPE")
+    @Holds(promise = 10, says = "STATE: no ROPE")
     static void noTideWithoutARope(Due d) {
         Edges.refused(d, "tide()", Edges::none, x -> x.tide(), Edges.STATE);
         Edges.refused(d, "tide(), a rope on the page", () -> Edges.page(Edges.TWO), x -> x.tide(), Edges.STATE);
     }
 
-    @Edge(promise = 10, says = "FULL: 999 were")
+    @Holds(promise = 10, says = "FULL: 999 were")
     static void theLastTideAndTheNext(Due d) {
         // No run of 512 calls comes here; it holds all the same.
         RopeVote x = Due.hung("m1+00,m1000");
@@ -102,7 +102,7 @@ final class DoneEdges {
         d.is("count(4)", x.count(4), 999);
     }
 
-    @Edge(promise = 10, says = "it is TIDE 0")
+    @Holds(promise = 10, says = "it is TIDE 0")
     static void theFirstTide(Due d) {
         d.is("count(4)", Edges.two().count(4), 0);
         d.is("tide()", Edges.two().tide(), 1);
@@ -114,7 +114,7 @@ final class DoneEdges {
         d.is("tide() of another rope", x.tide(), 1);
     }
 
-    @Edge(promise = 10, says = "for, if that is more than 0, against, if less; else it stays")
+    @Holds(promise = 10, says = "for, if that is more than 0, against, if less; else it stays")
     static void mostOfThreeOfEveryKind(Due d) {
         for (String kind : new String[] {"m", "e", "k", "s", "c"}) {
             for (int way = 0; way < 27; way++) {
@@ -133,7 +133,7 @@ final class DoneEdges {
         }
     }
 
-    @Edge(promise = 10, says = "itself, and its neighbours on whole THREADS")
+    @Holds(promise = 10, says = "itself, and its neighbours on whole THREADS")
     static void theEndsHaveOneNeighbour(Due d) {
         for (int way = 0; way < 9; way++) {
             int one = way % 3 - 1;
@@ -158,7 +158,7 @@ final class DoneEdges {
         }
     }
 
-    @Edge(promise = 10, says = "all at once")
+    @Holds(promise = 10, says = "all at once")
     static void aLeanGoesOneMusselATide(Due d) {
         RopeVote x = Due.hung("m1+00,m1000,m1000,m1000,m1000,m1000,m1000,m1000");
         RopeVote y = Due.hung("m1000,m1000,m1000,m1000,m1000,m1000,m1000,m1-00");
@@ -174,7 +174,7 @@ final class DoneEdges {
 
     // ---- promise 11
 
-    @Edge(promise = 11, says = "UNKNOWN: thread")
+    @Holds(promise = 11, says = "UNKNOWN: thread")
     static void cutTheLastThreadAndTheNext(Due d) {
         for (int many = 2; many <= 8; many++) {
             String text = Edges.ropeOf(many);
@@ -185,12 +185,12 @@ final class DoneEdges {
         for (int t : Edges.around(0, Edges.BUSY - 1)) Edges.refused(d, "cut(" + t + ")", Edges::busy, x -> x.cut(t), Edges.UNKNOWN);
     }
 
-    @Edge(promise = 11, says = "UNKNOWN: thread")
+    @Holds(promise = 11, says = "UNKNOWN: thread")
     static void cutWithoutARope(Due d) {
         Edges.refused(d, "cut(0)", Edges::none, x -> x.cut(0), Edges.UNKNOWN);
     }
 
-    @Edge(promise = 11, says = "STATE: it is CUT")
+    @Holds(promise = 11, says = "STATE: it is CUT")
     static void cutWhatIsCut(Due d) {
         Edges.refused(d, "cut(2)", Edges::busy, x -> x.cut(2), Edges.STATE);
         for (int thread = 0; thread < 8; thread++) {
@@ -201,7 +201,7 @@ final class DoneEdges {
         }
     }
 
-    @Edge(promise = 11, says = "how many MUSSELS are FELT then")
+    @Holds(promise = 11, says = "how many MUSSELS are FELT then")
     static void cutAllThreadsFromTheDeepEnd(Due d) {
         RopeVote x = Edges.eight();
         for (int thread = 7; thread >= 0; thread--) d.is("cut(" + thread + ")", x.cut(thread), thread);
@@ -209,7 +209,7 @@ final class DoneEdges {
         for (int thread = 0; thread < 8; thread++) d.is("cut(" + thread + ")", x.cut(thread), Edges.STATE);
     }
 
-    @Edge(promise = 11, says = "how many MUSSELS are FELT then")
+    @Holds(promise = 11, says = "how many MUSSELS are FELT then")
     static void cutBehindACut(Due d) {
         RopeVote x = Edges.eight();
         for (int thread = 0; thread < 8; thread++) d.is("cut(" + thread + ")", x.cut(thread), 0);
@@ -217,7 +217,7 @@ final class DoneEdges {
 
     // ---- promise 12
 
-    @Edge(promise = 12, says = "UNKNOWN (a number names nothing)")
+    @Holds(promise = 12, says = "UNKNOWN (a number names nothing)")
     static void tieTheLastThreadAndTheNext(Due d) {
         for (int many = 2; many <= 8; many++) {
             RopeVote x = Due.hung(Edges.ropeOf(many));
@@ -230,12 +230,12 @@ final class DoneEdges {
         for (int t : Edges.around(0, Edges.BUSY - 1)) Edges.refused(d, "tie(" + t + ")", Edges::busy, x -> x.tie(t), Edges.UNKNOWN);
     }
 
-    @Edge(promise = 12, says = "UNKNOWN (a number names nothing)")
+    @Holds(promise = 12, says = "UNKNOWN (a number names nothing)")
     static void tieWithoutARope(Due d) {
         Edges.refused(d, "tie(0)", Edges::none, x -> x.tie(0), Edges.UNKNOWN);
     }
 
-    @Edge(promise = 12, says = "STATE: it is whole")
+    @Holds(promise = 12, says = "STATE: it is whole")
     static void tieWhatIsWhole(Due d) {
         for (int t : new int[] {0, 1, 3}) Edges.refused(d, "tie(" + t + ")", Edges::busy, x -> x.tie(t), Edges.STATE);
         for (int thread = 0; thread < 8; thread++) {
@@ -247,7 +247,7 @@ final class DoneEdges {
         }
     }
 
-    @Edge(promise = 12, says = "how many MUSSELS are FELT then")
+    @Holds(promise = 12, says = "how many MUSSELS are FELT then")
     static void tieAllThreads(Due d) {
         RopeVote x = Edges.eight();
         for (int thread = 0; thread < 8; thread++) x.cut(thread);
@@ -261,7 +261,7 @@ final class DoneEdges {
 
     // ---- promise 13
 
-    @Edge(promise = 13, says = "UNKNOWN: mussel, question")
+    @Holds(promise = 13, says = "UNKNOWN: mussel, question")
     static void turnTheLastMusselAndTheNext(Due d) {
         d.is("turn(0, 0, 0)", Edges.eight().turn(0, 0, 0), 2);
         d.is("turn(7, 0, 0)", Edges.eight().turn(7, 0, 0), 0);
@@ -274,7 +274,7 @@ final class DoneEdges {
         }
     }
 
-    @Edge(promise = 13, says = "UNKNOWN: mussel, question")
+    @Holds(promise = 13, says = "UNKNOWN: mussel, question")
     static void turnOnTheLastQuestionAndTheNext(Due d) {
         d.is("turn(0, 0, 0)", Edges.two().turn(0, 0, 0), 2);
         d.is("turn(0, 2, 0)", Edges.two().turn(0, 2, 0), 1);
@@ -283,12 +283,12 @@ final class DoneEdges {
         }
     }
 
-    @Edge(promise = 13, says = "UNKNOWN: mussel, question")
+    @Holds(promise = 13, says = "UNKNOWN: mussel, question")
     static void turnWithoutARope(Due d) {
         Edges.refused(d, "turn(0, 0, 0)", Edges::none, x -> x.turn(0, 0, 0), Edges.UNKNOWN);
     }
 
-    @Edge(promise = 13, says = "OUTSIDE: lean (1, 0, -1)")
+    @Holds(promise = 13, says = "OUTSIDE: lean (1, 0, -1)")
     static void theLastLeanAndTheNext(Due d) {
         for (int lean = -1; lean <= 1; lean++) {
             RopeVote x = Edges.two();
@@ -300,7 +300,7 @@ final class DoneEdges {
         }
     }
 
-    @Edge(promise = 13, says = "of several the first as told by each call")
+    @Holds(promise = 13, says = "of several the first as told by each call")
     static void turnWithSeveralWrong(Due d) {
         for (int lean : new int[] {-2, 2}) {
             Edges.refused(d, "turn(4, 0, " + lean + ")", Edges::busy, x -> x.turn(Edges.BUSY, 0, lean), Edges.UNKNOWN);
@@ -310,7 +310,7 @@ final class DoneEdges {
         }
     }
 
-    @Edge(promise = 13, says = "how it did, told as 1 more (2 for, 1 neither, 0 against)")
+    @Holds(promise = 13, says = "how it did, told as 1 more (2 for, 1 neither, 0 against)")
     static void fromEachLeanToEach(Due d) {
         for (int from = -1; from <= 1; from++) {
             for (int to = -1; to <= 1; to++) {
@@ -324,7 +324,7 @@ final class DoneEdges {
 
     // ---- promise 14
 
-    @Edge(promise = 14, says = "OUTSIDE: weight (1 to 9)")
+    @Holds(promise = 14, says = "OUTSIDE: weight (1 to 9)")
     static void theLastWeightAndTheNext(Due d) {
         for (int weight = 1; weight <= 9; weight++) {
             RopeVote x = Edges.two();
@@ -336,7 +336,7 @@ final class DoneEdges {
         }
     }
 
-    @Edge(promise = 14, says = "UNKNOWN (a number names nothing)")
+    @Holds(promise = 14, says = "UNKNOWN (a number names nothing)")
     static void growTheLastMusselAndTheNext(Due d) {
         d.is("grow(0, 1)", Edges.eight().grow(0, 1), 9);
         d.is("grow(7, 1)", Edges.eight().grow(7, 1), 2);
@@ -349,12 +349,12 @@ final class DoneEdges {
         }
     }
 
-    @Edge(promise = 14, says = "UNKNOWN (a number names nothing)")
+    @Holds(promise = 14, says = "UNKNOWN (a number names nothing)")
     static void growWithoutARope(Due d) {
         Edges.refused(d, "grow(0, 1)", Edges::none, x -> x.grow(0, 1), Edges.UNKNOWN);
     }
 
-    @Edge(promise = 14, says = "of several the first as told by each call")
+    @Holds(promise = 14, says = "of several the first as told by each call")
     static void growWithSeveralWrong(Due d) {
         for (int weight : new int[] {0, 10}) {
             Edges.refused(d, "grow(-1, " + weight + ")", Edges::busy, x -> x.grow(-1, weight), Edges.UNKNOWN);

@@ -5,19 +5,17 @@ import java.lang.reflect.Method;
 import java.lang.reflect.Modifier;
 import java.nio.file.Files;
 import java.nio.file.Path;
-import java.util.Arrays;
 import java.util.Set;
 import java.util.TreeSet;
+import java.util.regex.Matcher;
+import java.util.regex.Pattern;
 
 /** The face is the document's and no more, and the source keeps to what of ../shared/LANGUAGE.md can be read off it. */
 public final class FaceTest {
     private static final Due DUE = new Due();
-    private static final String[] FACE = {
-        "int letter(int)", "int blank()", "int fault()", "int rope()", "int mussel(int,int)", "int as(int,int)",
-        "int question(int,int)", "int ask(int)", "int tide()", "int cut(int)", "int tie(int)", "int turn(int,int,int)",
-        "int grow(int,int)", "int say(int,int,int)", "int chance(int,int,int)", "int cuts(int,int,int)",
-        "int fewTurns(int,int,int)", "int settle(int)", "int see(int,int,int)", "int forget()", "int tides(int,int,int)",
-        "int image()", "int restore()", "int count(int)", "long digest()"};
+    private static final Path DOCUMENT = Path.of("../shared/DOC.md");
+    private static final Pattern METHOD = Pattern.compile("public (int|long) (\\w+)\\(([^)]*)\\);");
+    private static final Pattern CONSTANT = Pattern.compile("([A-Z]+) = (-?\\d+)");
     private static final String[] RULED_OUT = {
         "import ", "package ", "->", "::", "try ", "try{", "catch", "finally", "throw", "synchronized", "assert ", "@",
         "Exact", "hashCode", "toString", ".equals", "System.out", "System.nano", "System.current", "random", "Thread.", "new Thread",
@@ -31,21 +29,49 @@ public final class FaceTest {
         return text.append(')').toString();
     }
 
-    private static void face() {
+    private static String faceOfDocument() throws IOException {
+        String document = Files.readString(DOCUMENT);
+        int from = document.indexOf("```java");
+        int to = document.indexOf("```", from + 3);
+        return from < 0 || to < 0 ? "" : document.substring(from, to);
+    }
+
+    private static Set<String> methodsOf(String face) {
+        Set<String> methods = new TreeSet<>();
+        for (Matcher m = METHOD.matcher(face); m.find();) {
+            methods.add(m.group(1) + " " + m.group(2) + "(" + m.group(3).replaceAll("int \\w+", "int").replace(" ", "") + ")");
+        }
+        return methods;
+    }
+
+    private static void constants(Class<RopeVote> c, String face) throws IllegalAccessException {
+        Set<String> due = new TreeSet<>();
+        for (Matcher m = CONSTANT.matcher(face); m.find();) due.add("public static final int " + m.group(1) + " = " + m.group(2));
+        Set<String> fields = new TreeSet<>();
+        for (Field f : c.getDeclaredFields()) {
+            if (Modifier.isPrivate(f.getModifiers())) continue;
+            fields.add(Modifier.toString(f.getModifiers()) + " " + f.getType() + " " + f.getName() + " = " + f.get(null));
+        }
+        DUE.is("how many constants the document has", due.size(), 5);
+        DUE.holds("the constants are the document's: " + fields, fields.equals(due));
+    }
+
+    private static void face() throws IOException, IllegalAccessException {
+        String due = faceOfDocument();
         Class<RopeVote> c = RopeVote.class;
         DUE.holds("the class is public and final", Modifier.isPublic(c.getModifiers()) && Modifier.isFinal(c.getModifiers()));
         Set<String> open = new TreeSet<>();
         Set<String> names = new TreeSet<>();
         for (Method m : c.getDeclaredMethods()) {
+            DUE.holds("seven parameters at most: " + m, m.getParameterCount() <= 7);
             if (Modifier.isPrivate(m.getModifiers())) continue;
+            DUE.holds(m + " is public, and of the object", m.getModifiers() == Modifier.PUBLIC);
             open.add(told(m));
             names.add(m.getName());
         }
-        DUE.holds("the methods are the document's: " + open, open.equals(new TreeSet<>(Arrays.asList(FACE))));
-        Set<String> fields = new TreeSet<>();
-        for (Field f : c.getDeclaredFields()) if (!Modifier.isPrivate(f.getModifiers())) fields.add(f.getName());
-        DUE.holds("the constants are the document's: " + fields,
-                fields.equals(new TreeSet<>(Arrays.asList("NONE", "UNKNOWN", "OUTSIDE", "STATE", "FULL"))));
+        DUE.is("how many methods the document has", methodsOf(due).size(), 25);
+        DUE.holds("the methods are the document's: " + open, open.equals(methodsOf(due)));
+        constants(c, due);
         Constructor<?>[] made = c.getDeclaredConstructors();
         DUE.holds("one public constructor", made.length == 1 && Modifier.isPublic(made[0].getModifiers())
                 && made[0].getParameterCount() == 0);
@@ -82,7 +108,7 @@ public final class FaceTest {
         }
     }
 
-    public static void main(String[] args) throws IOException {
+    public static void main(String[] args) throws IOException, IllegalAccessException {
         face();
         source();
         DUE.end("FaceTest");

@@ -5,7 +5,7 @@ final class MusselEdges {
 
     // ---- promise 6
 
-    @Edge(promise = 6, says = "UNKNOWN (a number names nothing)")
+    @Holds(promise = 6, says = "UNKNOWN (a number names nothing)")
     static void theLastMusselAndTheNext(Due d) {
         for (int many = 2; many <= 8; many++) {
             String text = Edges.ropeOf(many);
@@ -17,7 +17,7 @@ final class MusselEdges {
         }
     }
 
-    @Edge(promise = 6, says = "UNKNOWN (a number names nothing)")
+    @Holds(promise = 6, says = "UNKNOWN (a number names nothing)")
     static void noMusselWithoutARope(Due d) {
         for (int what = 0; what <= 22; what++) {
             int told = what;
@@ -25,7 +25,7 @@ final class MusselEdges {
         }
     }
 
-    @Edge(promise = 6, says = "10 to 12 what it PULLS on QUESTION 0 to 2 (told as 100 more), 20 to 22 LEANS on it, as bits")
+    @Holds(promise = 6, says = "10 to 12 what it PULLS on QUESTION 0 to 2 (told as 100 more), 20 to 22 LEANS on it, as bits")
     static void allThatIsTold(Due d) {
         RopeVote x = Due.hung("m4+0-,e3000");
         int[] due = {0, 4, 1, 0, -1, 1, 1, 0, Edges.OUTSIDE, Edges.OUTSIDE, 104, 100, 96, Edges.OUTSIDE, Edges.OUTSIDE,
@@ -33,20 +33,20 @@ final class MusselEdges {
         for (int what = 0; what < due.length; what++) d.is("mussel(0, " + what + ")", x.mussel(0, what), due[what]);
     }
 
-    @Edge(promise = 6, says = "0 MUSSEL \"m\", 1 ELDER \"e\", 2 CRANK \"c\", 3 KNOT \"k\", 4 SWAYED \"s\"")
+    @Holds(promise = 6, says = "0 MUSSEL \"m\", 1 ELDER \"e\", 2 CRANK \"c\", 3 KNOT \"k\", 4 SWAYED \"s\"")
     static void theFirstKindAndTheLast(Due d) {
         RopeVote x = Due.hung("m1000,e1000,c1000,k1000,s1000");
         for (int m = 0; m < 5; m++) d.is("mussel(" + m + ", 0)", x.mussel(m, 0), m);
     }
 
-    @Edge(promise = 6, says = "OUTSIDE (it is not as told)")
+    @Holds(promise = 6, says = "OUTSIDE (it is not as told)")
     static void whatIsNotTold(Due d) {
         for (int what : new int[] {Edges.LEAST, -65536, -1, 8, 9, 13, 19, 23, 65536, Edges.MOST}) {
             Edges.refused(d, "mussel(0, " + what + ")", Edges::busy, x -> x.mussel(0, what), Edges.OUTSIDE);
         }
     }
 
-    @Edge(promise = 6, says = "of several the first as told by each call")
+    @Holds(promise = 6, says = "of several the first as told by each call")
     static void anUnknownMusselAndWhatIsNotTold(Due d) {
         for (int what : new int[] {-1, 8, 9, 13, 19, 23}) {
             Edges.refused(d, "mussel(-1, " + what + ")", Edges::busy, x -> x.mussel(-1, what), Edges.UNKNOWN);
@@ -55,7 +55,7 @@ final class MusselEdges {
         }
     }
 
-    @Edge(promise = 6, says = "they change nothing")
+    @Holds(promise = 6, says = "they change nothing")
     static void musselOnlyTells(Due d) {
         RopeVote x = Edges.busy();
         for (int m = -1; m <= Edges.BUSY; m++) for (int what = -1; what <= 23; what++) x.mussel(m, what);
@@ -63,7 +63,7 @@ final class MusselEdges {
         Edges.same(d, "mussel() only tells", x, Edges.busy());
     }
 
-    @Edge(promise = 6, says = "What is behind a CUT THREAD is not FELT at the rail.")
+    @Holds(promise = 6, says = "What is behind a CUT THREAD is not FELT at the rail.")
     static void feltAheadOfACutAndNotBehind(Due d) {
         for (int thread = 0; thread < 8; thread++) {
             RopeVote x = Edges.eight();
@@ -75,7 +75,7 @@ final class MusselEdges {
         }
     }
 
-    @Edge(promise = 6, says = "10 to 12 what it PULLS on QUESTION 0 to 2 (told as 100 more)")
+    @Holds(promise = 6, says = "10 to 12 what it PULLS on QUESTION 0 to 2 (told as 100 more)")
     static void theLeastAndTheGreatestPull(Due d) {
         RopeVote x = Due.hung("e9+-0,c9+-0");
         int[][] due = {{118, 82, 100}, {91, 109, 100}};
@@ -84,7 +84,7 @@ final class MusselEdges {
         }
     }
 
-    @Edge(promise = 6, says = "if not both its neighbours (on whole THREADS, ahead and behind) LEAN one way")
+    @Holds(promise = 6, says = "if not both its neighbours (on whole THREADS, ahead and behind) LEAN one way")
     static void knotsAtTheEndsHaveNotBothNeighbours(Due d) {
         RopeVote x = Due.hung("k9+-0,m1+-0,k9+-0");
         for (int q = 0; q < 3; q++) {
@@ -93,7 +93,7 @@ final class MusselEdges {
         }
     }
 
-    @Edge(promise = 6, says = "if not both its neighbours (on whole THREADS, ahead and behind) LEAN one way")
+    @Holds(promise = 6, says = "if not both its neighbours (on whole THREADS, ahead and behind) LEAN one way")
     static void knotsByTheirNeighbours(Due d) {
         for (int ahead = -1; ahead <= 1; ahead++) {
             for (int behind = -1; behind <= 1; behind++) {
@@ -114,7 +114,7 @@ final class MusselEdges {
         }
     }
 
-    @Edge(promise = 6, says = "a SWAYED one its WEIGHT that way, too, if both do so, else as a MUSSEL")
+    @Holds(promise = 6, says = "a SWAYED one its WEIGHT that way, too, if both do so, else as a MUSSEL")
     static void swayedOnesAtTheEndsAreAsMussels(Due d) {
         RopeVote x = Due.hung("s9-+0,m1+-+,s9-+0");
         int[] due = {91, 109, 100};
@@ -124,7 +124,7 @@ final class MusselEdges {
         }
     }
 
-    @Edge(promise = 6, says = "a SWAYED one its WEIGHT that way, too, if both do so, else as a MUSSEL")
+    @Holds(promise = 6, says = "a SWAYED one its WEIGHT that way, too, if both do so, else as a MUSSEL")
     static void swayedOnesByTheirNeighbours(Due d) {
         for (int ahead = -1; ahead <= 1; ahead++) {
             for (int own = -1; own <= 1; own++) {
@@ -142,14 +142,14 @@ final class MusselEdges {
         }
     }
 
-    @Edge(promise = 6, says = "as bits (1 for, 2 neither, 4 against)")
+    @Holds(promise = 6, says = "as bits (1 for, 2 neither, 4 against)")
     static void leansWithNothingSeen(Due d) {
         for (int m = 0; m < 8; m++) {
             for (int q = 0; q < 3; q++) d.is("mussel(" + m + ", " + (20 + q) + ")", Edges.eight().mussel(m, 20 + q), 7);
         }
     }
 
-    @Edge(promise = 6, says = "as bits (1 for, 2 neither, 4 against)")
+    @Holds(promise = 6, says = "as bits (1 for, 2 neither, 4 against)")
     static void leansByOneThatIsSeen(Due d) {
         int[] sums = {206, 205, 204, 203, 202, 201};
         int[] due = {0, 1, 0, 2, 0, 4};
@@ -162,7 +162,7 @@ final class MusselEdges {
         }
     }
 
-    @Edge(promise = 6, says = "so that all that is SEEN of it there is so")
+    @Holds(promise = 6, says = "so that all that is SEEN of it there is so")
     static void leansIfWhatIsSeenDoesNotAgree(Due d) {
         RopeVote x = Due.hung("m2000,m3+00");
         x.see(0, 0, 205);
@@ -172,7 +172,7 @@ final class MusselEdges {
         d.is("for and against, mussel(0, 20)", x.mussel(0, 20), 0);
     }
 
-    @Edge(promise = 6, says = "so that all that is SEEN of it there is so")
+    @Holds(promise = 6, says = "so that all that is SEEN of it there is so")
     static void leansBySixThatAreSeen(Due d) {
         RopeVote x = Due.hung("m2000,m3+00");
         for (int i = 0; i < 5; i++) x.see(1, 1, 200);
@@ -181,7 +181,7 @@ final class MusselEdges {
         d.is("the sixth counts, mussel(0, 20)", x.mussel(0, 20), 2);
     }
 
-    @Edge(promise = 6, says = "none, if by none there are fewer")
+    @Holds(promise = 6, says = "none, if by none there are fewer")
     static void askWhereNoSumTellsAnything(Due d) {
         RopeVote x = Edges.two();
         d.is("felt: mussel(0, 7)", x.mussel(0, 7), 0);
@@ -190,7 +190,7 @@ final class MusselEdges {
         d.is("a knot at the deep end, ahead a mussel: mussel(1, 7)", Due.hung("m1+++,k9+++").mussel(1, 7), Edges.NONE);
     }
 
-    @Edge(promise = 6, says = "if these are fewer than now: of like ones the least")
+    @Holds(promise = 6, says = "if these are fewer than now: of like ones the least")
     static void askGoesOnToTheNextQuestion(Due d) {
         RopeVote x = Edges.two();
         for (int q = 0; q < 3; q++) {
@@ -201,7 +201,7 @@ final class MusselEdges {
         d.is("another mussel: mussel(1, 7)", x.mussel(1, 7), 0);
     }
 
-    @Edge(promise = 6, says = "if these are fewer than now: of like ones the least")
+    @Holds(promise = 6, says = "if these are fewer than now: of like ones the least")
     static void askPassesOverWhereNoLeanIsLeft(Due d) {
         RopeVote x = Edges.two();
         x.see(0, 0, 0);
@@ -212,7 +212,7 @@ final class MusselEdges {
         d.is("none is left on any: mussel(0, 7)", x.mussel(0, 7), Edges.NONE);
     }
 
-    @Edge(promise = 6, says = "so that fewest of its LEANS on that one are left at worst, by the SUM")
+    @Holds(promise = 6, says = "so that fewest of its LEANS on that one are left at worst, by the SUM")
     static void askWhereTwoOfThreeAreLeftAtWorst(Due d) {
         // The swayed one between two for pulls 1 however it leans; the knot behind is moved by it, if it leans for.
         RopeVote x = Due.hung("m1+00,s1000,k4+00,m1+00");
@@ -227,7 +227,7 @@ final class MusselEdges {
 
     // ---- promise 7
 
-    @Edge(promise = 7, says = "UNKNOWN (a number names nothing)")
+    @Holds(promise = 7, says = "UNKNOWN (a number names nothing)")
     static void asOfTheLastMusselAndTheNext(Due d) {
         for (int many = 2; many <= 8; many++) {
             String text = Edges.ropeOf(many);
@@ -238,7 +238,7 @@ final class MusselEdges {
         Edges.refused(d, "as(0, 0) without a rope", Edges::none, x -> x.as(0, 0), Edges.UNKNOWN);
     }
 
-    @Edge(promise = 7, says = "OUTSIDE (it is not as told)")
+    @Holds(promise = 7, says = "OUTSIDE (it is not as told)")
     static void theLastKindAndTheNext(Due d) {
         d.is("as(0, 0)", Due.hung("s1000,s1000").as(0, 0), 0);
         d.is("as(1, 4)", Due.hung("s1000,s1000").as(1, 4), 1);
@@ -247,14 +247,14 @@ final class MusselEdges {
         }
     }
 
-    @Edge(promise = 7, says = "of several the first as told by each call")
+    @Holds(promise = 7, says = "of several the first as told by each call")
     static void anUnknownMusselAsAKindOutside(Due d) {
         Edges.refused(d, "as(-1, -1)", Edges::busy, x -> x.as(-1, -1), Edges.UNKNOWN);
         Edges.refused(d, "as(4, 5)", Edges::busy, x -> x.as(Edges.BUSY, 5), Edges.UNKNOWN);
         Edges.refused(d, "as(0, 5) without a rope", Edges::none, x -> x.as(0, 5), Edges.UNKNOWN);
     }
 
-    @Edge(promise = 7, says = "NONE: it is none such (the cast fails)")
+    @Holds(promise = 7, says = "NONE: it is none such (the cast fails)")
     static void castsThatFail(Due d) {
         RopeVote x = Due.hung("m1000,e1000,c1000,k1000,s1000");
         int[][] due = {{0, -1, -1, -1, -1}, {1, 1, -1, -1, -1}, {2, -1, 2, -1, -1}, {3, -1, -1, 3, -1}, {4, -1, -1, 4, 4}};
@@ -266,7 +266,7 @@ final class MusselEdges {
 
     // ---- promise 8
 
-    @Edge(promise = 8, says = "UNKNOWN: question (0 to 2; also without a ROPE)")
+    @Holds(promise = 8, says = "UNKNOWN: question (0 to 2; also without a ROPE)")
     static void theLastQuestionAndTheNext(Due d) {
         d.is("question(0, 0)", Edges.two().question(0, 0), 197);
         d.is("question(2, 0)", Edges.two().question(2, 0), 204);
@@ -275,7 +275,7 @@ final class MusselEdges {
         }
     }
 
-    @Edge(promise = 8, says = "UNKNOWN: question (0 to 2; also without a ROPE)")
+    @Holds(promise = 8, says = "UNKNOWN: question (0 to 2; also without a ROPE)")
     static void noQuestionWithoutARope(Due d) {
         for (int q = 0; q < 3; q++) {
             for (int what = 0; what <= 5; what++) d.is("question(" + q + ", " + what + ")", Edges.none().question(q, what), Edges.UNKNOWN);
@@ -283,7 +283,7 @@ final class MusselEdges {
         Edges.refused(d, "question(0, 0)", Edges::none, x -> x.question(0, 0), Edges.UNKNOWN);
     }
 
-    @Edge(promise = 8, says = "OUTSIDE (it is not as told)")
+    @Holds(promise = 8, says = "OUTSIDE (it is not as told)")
     static void theLastThatIsToldOfAQuestionAndTheNext(Due d) {
         d.is("question(0, 5)", Edges.two().question(0, 5), 1);
         for (int what : Edges.around(0, 5)) {
@@ -291,14 +291,14 @@ final class MusselEdges {
         }
     }
 
-    @Edge(promise = 8, says = "of several the first as told by each call")
+    @Holds(promise = 8, says = "of several the first as told by each call")
     static void anUnknownQuestionAndWhatIsNotTold(Due d) {
         Edges.refused(d, "question(-1, -1)", Edges::busy, x -> x.question(-1, -1), Edges.UNKNOWN);
         Edges.refused(d, "question(3, 6)", Edges::busy, x -> x.question(3, 6), Edges.UNKNOWN);
         Edges.refused(d, "question(0, 6) without a rope", Edges::none, x -> x.question(0, 6), Edges.UNKNOWN);
     }
 
-    @Edge(promise = 8, says = "it is CARRIED, if that is more than 0, LOST, if less, else it HANGS")
+    @Holds(promise = 8, says = "it is CARRIED, if that is more than 0, LOST, if less, else it HANGS")
     static void sumsNextToNothing(Due d) {
         int[] weights = {4, 5, 6};
         int[] due = {-1, 0, 1};
@@ -310,7 +310,7 @@ final class MusselEdges {
         }
     }
 
-    @Edge(promise = 8, says = "all that is PULLED on it by MUSSELS that are FELT at the rail, together (told as 200 more)")
+    @Holds(promise = 8, says = "all that is PULLED on it by MUSSELS that are FELT at the rail, together (told as 200 more)")
     static void theGreatestAndTheLeastSum(Due d) {
         RopeVote x = Due.hung("e9+-0,e9+-0,e9+-0,e9+-0,e9+-0,e9+-0,e9+-0,e9+-0");
         d.is("question(0, 0)", x.question(0, 0), 344);
@@ -318,7 +318,7 @@ final class MusselEdges {
         d.is("question(2, 0)", x.question(2, 0), 200);
     }
 
-    @Edge(promise = 8, says = "all that is PULLED on it by MUSSELS that are FELT at the rail, together (told as 200 more)")
+    @Holds(promise = 8, says = "all that is PULLED on it by MUSSELS that are FELT at the rail, together (told as 200 more)")
     static void theSumOfNobody(Due d) {
         RopeVote x = Edges.eight();
         x.cut(0);
@@ -328,7 +328,7 @@ final class MusselEdges {
         }
     }
 
-    @Edge(promise = 8, says = "4 how many LEAN for it, 5 against (FELT at the rail, or not)")
+    @Holds(promise = 8, says = "4 how many LEAN for it, 5 against (FELT at the rail, or not)")
     static void leaningAllOrNone(Due d) {
         RopeVote x = Due.hung("m1+-0,e1+-0,c1+-0,k1+-0,s1+-0,m1+-0,m1+-0,m1+-0");
         x.cut(0);
@@ -339,7 +339,7 @@ final class MusselEdges {
         }
     }
 
-    @Edge(promise = 8, says = "2 how often it was asked, 3 CARRIED of these")
+    @Holds(promise = 8, says = "2 how often it was asked, 3 CARRIED of these")
     static void askedNeverAndAsOftenAsCanBe(Due d) {
         RopeVote x = Due.hung("m1+-0,m1+-0");
         d.is("question(0, 2)", x.question(0, 2), 0);

@@ -7,7 +7,7 @@ final class PageEdges {
 
     // ---- promise 1
 
-    @Edge(promise = 1, says = "No ROPE.")
+    @Holds(promise = 1, says = "No ROPE.")
     static void aNewOneHasNoRope(Due d) {
         d.is("count(0)", Edges.none().count(0), 0);
         d.is("mussel(0, 0)", Edges.none().mussel(0, 0), Edges.UNKNOWN);
@@ -15,21 +15,21 @@ final class PageEdges {
         d.is("tide()", Edges.none().tide(), Edges.STATE);
     }
 
-    @Edge(promise = 1, says = "No ROPE.")
+    @Holds(promise = 1, says = "No ROPE.")
     static void aNewOneHasAnEmptyPage(Due d) {
         d.is("count(9)", Edges.none().count(9), 0);
         d.is("fault()", Edges.none().fault(), 0);
         d.is("blank()", Edges.none().blank(), 0);
     }
 
-    @Edge(promise = 1, says = "No ROPE.")
+    @Holds(promise = 1, says = "No ROPE.")
     static void aNewOneHasNothingSeenAndNoImage(Due d) {
         d.is("count(8)", Edges.none().count(8), 0);
         d.is("forget()", Edges.none().forget(), 0);
         d.is("restore()", Edges.none().restore(), Edges.STATE);
     }
 
-    @Edge(promise = 1, says = "No ROPE.")
+    @Holds(promise = 1, says = "No ROPE.")
     static void aNewOneKnowsNothingOfOthers(Due d) {
         RopeVote other = Edges.busy();
         RopeVote x = Edges.none();
@@ -41,24 +41,24 @@ final class PageEdges {
 
     // ---- promise 2
 
-    @Edge(promise = 2, says = "OUTSIDE: code (32 to 126)")
+    @Holds(promise = 2, says = "OUTSIDE: code (32 to 126)")
     static void theLeastCode(Due d) {
         d.is("letter(32)", Edges.none().letter(32), 1);
         Edges.refused(d, "letter(31)", Edges::none, x -> x.letter(31), Edges.OUTSIDE);
     }
 
-    @Edge(promise = 2, says = "OUTSIDE: code (32 to 126)")
+    @Holds(promise = 2, says = "OUTSIDE: code (32 to 126)")
     static void theGreatestCode(Due d) {
         d.is("letter(126)", Edges.none().letter(126), 1);
         Edges.refused(d, "letter(127)", Edges::none, x -> x.letter(127), Edges.OUTSIDE);
     }
 
-    @Edge(promise = 2, says = "OUTSIDE: code (32 to 126)")
+    @Holds(promise = 2, says = "OUTSIDE: code (32 to 126)")
     static void allCodesBetween(Due d) {
         for (int code = 32; code <= 126; code++) d.is("letter(" + code + ")", Edges.none().letter(code), 1);
     }
 
-    @Edge(promise = 2, says = "OUTSIDE: code (32 to 126)")
+    @Holds(promise = 2, says = "OUTSIDE: code (32 to 126)")
     static void codesFarOutside(Due d) {
         for (int code : Edges.around(32, 126)) {
             Edges.refused(d, "letter(" + code + ")", Edges::busy, x -> x.letter(code), Edges.OUTSIDE);
@@ -73,7 +73,7 @@ final class PageEdges {
         return x;
     }
 
-    @Edge(promise = 2, says = "FULL: above 50")
+    @Holds(promise = 2, says = "FULL: above 50")
     static void theFiftiethLetter(Due d) {
         RopeVote x = Edges.none();
         for (int many = 1; many <= 50; many++) d.is("letter, the " + many + "th", x.letter('m'), many);
@@ -82,18 +82,18 @@ final class PageEdges {
         d.is("count(9)", x.count(9), 50);
     }
 
-    @Edge(promise = 2, says = "FULL: above 50")
+    @Holds(promise = 2, says = "FULL: above 50")
     static void aFullPageStays(Due d) {
         Edges.refused(d, "letter(120)", PageEdges::fullPage, x -> x.letter('x'), Edges.FULL);
     }
 
-    @Edge(promise = 2, says = "of several the first as told by each call")
+    @Holds(promise = 2, says = "of several the first as told by each call")
     static void aWrongCodeOnAFullPage(Due d) {
         Edges.refused(d, "letter(31)", PageEdges::fullPage, x -> x.letter(31), Edges.OUTSIDE);
         Edges.refused(d, "letter(127)", PageEdges::fullPage, x -> x.letter(127), Edges.OUTSIDE);
     }
 
-    @Edge(promise = 2, says = "how many THE PAGE has")
+    @Holds(promise = 2, says = "how many THE PAGE has")
     static void aFullPageMadeEmpty(Due d) {
         RopeVote x = fullPage();
         x.blank();
@@ -105,7 +105,7 @@ final class PageEdges {
 
     // ---- promise 3
 
-    @Edge(promise = 3, says = "how many letters it had")
+    @Holds(promise = 3, says = "how many letters it had")
     static void blankOfAnEmptyPage(Due d) {
         Edges.told(d, "blank()", Edges::none, x -> x.blank(), 0);
         Edges.told(d, "blank() behind rope()", Edges::two, x -> x.blank(), 0);
@@ -114,12 +114,12 @@ final class PageEdges {
         d.is("blank() again", y.blank(), 0);
     }
 
-    @Edge(promise = 3, says = "how many letters it had")
+    @Holds(promise = 3, says = "how many letters it had")
     static void blankOfOneLetter(Due d) {
         d.is("blank()", Edges.page("x").blank(), 1);
     }
 
-    @Edge(promise = 3, says = "how many letters it had")
+    @Holds(promise = 3, says = "how many letters it had")
     static void blankOfAFullPage(Due d) {
         RopeVote x = fullPage();
         d.is("blank()", x.blank(), 50);
@@ -127,7 +127,7 @@ final class PageEdges {
         d.is("fault()", x.fault(), 0);
     }
 
-    @Edge(promise = 3, says = "THE PAGE is empty")
+    @Holds(promise = 3, says = "THE PAGE is empty")
     static void blankLeavesNoLetter(Due d) {
         RopeVote x = Edges.page("x");
         x.blank();
@@ -135,7 +135,7 @@ final class PageEdges {
         d.is("fault()", x.fault(), 1);
     }
 
-    @Edge(promise = 3, says = "THE PAGE is empty")
+    @Holds(promise = 3, says = "THE PAGE is empty")
     static void blankLeavesTheRope(Due d) {
         RopeVote x = Edges.two();
         Due.write(x, "k1");
@@ -154,7 +154,7 @@ final class PageEdges {
         return taken[place % 6].indexOf(code) >= 0;
     }
 
-    @Edge(promise = 4, says = "The place (from 0) of the first letter of THE PAGE that no ROPE has there")
+    @Holds(promise = 4, says = "The place (from 0) of the first letter of THE PAGE that no ROPE has there")
     static void everyLetterAtEveryPlace(Due d) {
         for (int place = 0; place < 47; place++) {
             for (int code = 32; code <= 126; code++) {
@@ -164,7 +164,7 @@ final class PageEdges {
         }
     }
 
-    @Edge(promise = 4, says = "The place (from 0) of the first letter of THE PAGE that no ROPE has there")
+    @Holds(promise = 4, says = "The place (from 0) of the first letter of THE PAGE that no ROPE has there")
     static void noNinthMussel(Due d) {
         for (int code = 32; code <= 126; code++) {
             d.is("fault() of a 48th letter, " + code, Edges.page(LONGEST + (char) code).fault(), 47);
@@ -172,20 +172,20 @@ final class PageEdges {
         d.is("fault() of a full page", Edges.page(LONGEST + ",m1").fault(), 47);
     }
 
-    @Edge(promise = 4, says = "how many letters it has, if there is none")
+    @Holds(promise = 4, says = "how many letters it has, if there is none")
     static void faultOfAnEmptyPage(Due d) {
         Edges.told(d, "fault()", Edges::none, x -> x.fault(), 0);
         Edges.told(d, "fault() with a rope", Edges::two, x -> x.fault(), 0);
     }
 
-    @Edge(promise = 4, says = "how many letters it has, if there is none")
+    @Holds(promise = 4, says = "how many letters it has, if there is none")
     static void faultOfTextsThatCanGoOn(Due d) {
         for (int many = 1; many <= 47; many++) {
             d.is("fault() of " + many + " letters", Edges.page(LONGEST.substring(0, many)).fault(), many);
         }
     }
 
-    @Edge(promise = 4, says = "behind those ahead of it")
+    @Holds(promise = 4, says = "behind those ahead of it")
     static void theFirstOfSeveralFaults(Due d) {
         d.is("fault() of 'xx'", Edges.page("xx").fault(), 0);
         d.is("fault() of 'm0x'", Edges.page("m0x").fault(), 1);
@@ -193,7 +193,7 @@ final class PageEdges {
         d.is("fault() of 50 blanks", Edges.page(" ".repeat(50)).fault(), 0);
     }
 
-    @Edge(promise = 4, says = "they change nothing")
+    @Holds(promise = 4, says = "they change nothing")
     static void faultOnlyTells(Due d) {
         Edges.told(d, "fault() of 'c9+'", Edges::busy, x -> x.fault(), 3);
         Edges.told(d, "fault() of a full page", PageEdges::fullPage, x -> x.fault(), 47);
@@ -201,13 +201,13 @@ final class PageEdges {
 
     // ---- promise 5
 
-    @Edge(promise = 5, says = "two to eight MUSSELS")
+    @Holds(promise = 5, says = "two to eight MUSSELS")
     static void oneMusselIsNoRope(Due d) {
         Edges.refused(d, "rope() of one", () -> Edges.page("m1+-0"), x -> x.rope(), Edges.STATE);
         d.is("rope() of two", Edges.page("m1+-0,m1+-0").rope(), 2);
     }
 
-    @Edge(promise = 5, says = "two to eight MUSSELS")
+    @Holds(promise = 5, says = "two to eight MUSSELS")
     static void allThatAreRopes(Due d) {
         for (int many = 2; many <= 8; many++) {
             RopeVote x = Edges.page(LONGEST.substring(0, 6 * many - 1));
@@ -217,14 +217,14 @@ final class PageEdges {
         }
     }
 
-    @Edge(promise = 5, says = "two to eight MUSSELS")
+    @Holds(promise = 5, says = "two to eight MUSSELS")
     static void nineMusselsAreNoRope(Due d) {
         for (String more : new String[] {",", ",m", ",m1"}) {
             Edges.refused(d, "rope() of eight and '" + more + "'", () -> Edges.page(LONGEST + more), x -> x.rope(), Edges.STATE);
         }
     }
 
-    @Edge(promise = 5, says = "STATE: it is none")
+    @Holds(promise = 5, says = "STATE: it is none")
     static void textsThatEndTooSoon(Due d) {
         for (int many = 0; many <= 47; many++) {
             boolean whole = many >= 11 && many % 6 == 5;
@@ -233,7 +233,7 @@ final class PageEdges {
         }
     }
 
-    @Edge(promise = 5, says = "STATE: it is none")
+    @Holds(promise = 5, says = "STATE: it is none")
     static void oneWrongLetterAnywhere(Due d) {
         String text = LONGEST.substring(0, 11);
         for (int place = 0; place < 11; place++) {
@@ -244,7 +244,7 @@ final class PageEdges {
         }
     }
 
-    @Edge(promise = 5, says = "the WEIGHT (1 to 9)")
+    @Holds(promise = 5, says = "the WEIGHT (1 to 9)")
     static void theLeastAndTheGreatestWeight(Due d) {
         RopeVote x = Due.hung("m1+++,m9+++");
         d.is("mussel(0, 1)", x.mussel(0, 1), 1);
@@ -253,19 +253,19 @@ final class PageEdges {
         Edges.refused(d, "rope() of weight 10", () -> Edges.page("m1+++,m10+++"), y -> y.rope(), Edges.STATE);
     }
 
-    @Edge(promise = 5, says = "STATE: it is none")
+    @Holds(promise = 5, says = "STATE: it is none")
     static void ropeOfAnEmptyPage(Due d) {
         Edges.refused(d, "rope()", Edges::none, x -> x.rope(), Edges.STATE);
         Edges.refused(d, "rope() with a rope", Edges::two, x -> x.rope(), Edges.STATE);
     }
 
-    @Edge(promise = 5, says = "they change nothing")
+    @Holds(promise = 5, says = "they change nothing")
     static void aRefusedRopeLeavesTheOtherOne(Due d) {
         Edges.refused(d, "rope() of 'c9+'", Edges::busy, x -> x.rope(), Edges.STATE);
         Edges.refused(d, "rope() of a full page", PageEdges::fullPage, x -> x.rope(), Edges.STATE);
     }
 
-    @Edge(promise = 5, says = "another one is gone, with all that was")
+    @Holds(promise = 5, says = "another one is gone, with all that was")
     static void nothingOfTheOtherRopeIsLeft(Due d) {
         RopeVote x = Edges.busy();
         x.blank();
@@ -286,7 +286,7 @@ final class PageEdges {
         d.is("restore()", x.restore(), Edges.STATE);
     }
 
-    @Edge(promise = 5, says = "then no THREAD is cut, it is TIDE 0")
+    @Holds(promise = 5, says = "then no THREAD is cut, it is TIDE 0")
     static void allThreadsOfAnotherRopeAreWhole(Due d) {
         RopeVote x = Edges.eight();
         for (int thread = 0; thread < 8; thread++) x.cut(thread);
@@ -299,7 +299,7 @@ final class PageEdges {
         for (int m = 0; m < 8; m++) d.is("mussel(" + m + ", 6)", x.mussel(m, 6), 1);
     }
 
-    @Edge(promise = 5, says = "another one is gone, with all that was")
+    @Holds(promise = 5, says = "another one is gone, with all that was")
     static void eachKindInThePlaceOfEach(Due d) {
         String kinds = "mecks";
         for (int was = 0; was < 5; was++) {
@@ -313,7 +313,7 @@ final class PageEdges {
         }
     }
 
-    @Edge(promise = 5, says = "THE PAGE is empty then")
+    @Holds(promise = 5, says = "THE PAGE is empty then")
     static void thePageBehindRope(Due d) {
         RopeVote x = Edges.page(LONGEST);
         x.rope();

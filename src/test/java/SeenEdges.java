@@ -16,7 +16,7 @@ final class SeenEdges {
         return x;
     }
 
-    @Edge(promise = 20, says = "UNKNOWN: mussel, question")
+    @Holds(promise = 20, says = "UNKNOWN: mussel, question")
     static void seeTheLastMusselAndTheNext(Due d) {
         d.is("see(0, 0, 200)", Edges.eight().see(0, 0, 200), 1);
         d.is("see(7, 0, 200)", Edges.eight().see(7, 0, 200), 1);
@@ -29,7 +29,7 @@ final class SeenEdges {
         }
     }
 
-    @Edge(promise = 20, says = "UNKNOWN: mussel, question")
+    @Holds(promise = 20, says = "UNKNOWN: mussel, question")
     static void seeTheLastQuestionAndTheNext(Due d) {
         d.is("see(0, 0, 200)", Edges.two().see(0, 0, 200), 1);
         d.is("see(0, 2, 200)", Edges.two().see(0, 2, 200), 1);
@@ -38,12 +38,12 @@ final class SeenEdges {
         }
     }
 
-    @Edge(promise = 20, says = "UNKNOWN: mussel, question")
+    @Holds(promise = 20, says = "UNKNOWN: mussel, question")
     static void seeWithoutARope(Due d) {
         Edges.refused(d, "see(0, 0, 200)", Edges::none, x -> x.see(0, 0, 200), Edges.UNKNOWN);
     }
 
-    @Edge(promise = 20, says = "OUTSIDE: sum (as told, 200 more: 0 to 400)")
+    @Holds(promise = 20, says = "OUTSIDE: sum (as told, 200 more: 0 to 400)")
     static void theLastSumAndTheNext(Due d) {
         d.is("see(0, 0, 0)", Edges.two().see(0, 0, 0), 1);
         d.is("see(0, 0, 400)", Edges.two().see(0, 0, 400), 1);
@@ -52,7 +52,7 @@ final class SeenEdges {
         }
     }
 
-    @Edge(promise = 20, says = "OUTSIDE: sum (as told, 200 more: 0 to 400)")
+    @Holds(promise = 20, says = "OUTSIDE: sum (as told, 200 more: 0 to 400)")
     static void sumsThatNoRopeHas(Due d) {
         for (int sum : new int[] {0, 400}) {
             RopeVote x = Edges.eight();
@@ -62,7 +62,7 @@ final class SeenEdges {
         }
     }
 
-    @Edge(promise = 20, says = "SEEN (6 at most)")
+    @Holds(promise = 20, says = "SEEN (6 at most)")
     static void theSixthThatIsSeenAndTheNext(Due d) {
         RopeVote x = Edges.two();
         for (int many = 1; many <= 6; many++) d.is("see(0, 0, 200), the " + many + "th", x.see(0, 0, 200), many);
@@ -72,13 +72,13 @@ final class SeenEdges {
         d.is("mussel(1, 22)", x.mussel(1, 22), 7);
     }
 
-    @Edge(promise = 20, says = "SEEN (6 at most)")
+    @Holds(promise = 20, says = "SEEN (6 at most)")
     static void sixThatAreSeenStay(Due d) {
         Edges.refused(d, "see(0, 0, 0)", SeenEdges::sixSeen, x -> x.see(0, 0, 0), Edges.FULL);
         Edges.refused(d, "see(1, 2, 203)", SeenEdges::sixSeen, x -> x.see(1, 2, 203), Edges.FULL);
     }
 
-    @Edge(promise = 20, says = "of several the first as told by each call")
+    @Holds(promise = 20, says = "of several the first as told by each call")
     static void seeWithSeveralWrong(Due d) {
         for (int sum : new int[] {-1, 401}) {
             Edges.refused(d, "see(4, 0, " + sum + ")", Edges::busy, x -> x.see(Edges.BUSY, 0, sum), Edges.UNKNOWN);
@@ -91,7 +91,7 @@ final class SeenEdges {
         Edges.refused(d, "see(2, 3, 401), 6 seen", SeenEdges::sixSeen, x -> x.see(2, 3, 401), Edges.UNKNOWN);
     }
 
-    @Edge(promise = 20, says = "An IMAGE keeps WEIGHTS, how all LEAN, THREADS, TIDES, how often each QUESTION was asked, and CARRIED, SEEN.")
+    @Holds(promise = 20, says = "An IMAGE keeps WEIGHTS, how all LEAN, THREADS, TIDES, how often each QUESTION was asked, and CARRIED, SEEN.")
     static void sixThatAreSeenBehindRestore(Due d) {
         RopeVote x = Edges.two();
         x.see(0, 0, 197);
@@ -105,13 +105,13 @@ final class SeenEdges {
 
     // ---- promise 21
 
-    @Edge(promise = 21, says = "how much was")
+    @Holds(promise = 21, says = "how much was")
     static void forgetNothing(Due d) {
         Edges.told(d, "forget()", Edges::two, x -> x.forget(), 0);
         Edges.told(d, "forget() without a rope", Edges::none, x -> x.forget(), 0);
     }
 
-    @Edge(promise = 21, says = "how much was")
+    @Holds(promise = 21, says = "how much was")
     static void forgetOneAndSix(Due d) {
         RopeVote x = Edges.two();
         x.see(0, 0, 200);
@@ -120,7 +120,7 @@ final class SeenEdges {
         d.is("forget() again", x.forget(), 0);
     }
 
-    @Edge(promise = 21, says = "Nothing is SEEN any more")
+    @Holds(promise = 21, says = "Nothing is SEEN any more")
     static void nothingIsLeftBehindForget(Due d) {
         RopeVote x = sixSeen();
         x.forget();
@@ -163,7 +163,7 @@ final class SeenEdges {
         d.is(told + "2)", y.tides(times, seed, 2), drawn);
     }
 
-    @Edge(promise = 22, says = "OUTSIDE: times (1 to 60), seed (0 at least), what")
+    @Holds(promise = 22, says = "OUTSIDE: times (1 to 60), seed (0 at least), what")
     static void theLastTimesAndTheNext(Due d) {
         tidesAre(d, Edges.EIGHT, 1, 5);
         tidesAre(d, Edges.EIGHT, 60, 5);
@@ -172,7 +172,7 @@ final class SeenEdges {
         }
     }
 
-    @Edge(promise = 22, says = "OUTSIDE: times (1 to 60), seed (0 at least), what")
+    @Holds(promise = 22, says = "OUTSIDE: times (1 to 60), seed (0 at least), what")
     static void theLeastAndTheGreatestSeed(Due d) {
         tidesAre(d, Edges.TWO, 60, 0);
         tidesAre(d, Edges.TWO, 60, 1);
@@ -183,7 +183,7 @@ final class SeenEdges {
         }
     }
 
-    @Edge(promise = 22, says = "1103515245 times it and 12345, its rest by 2 to the 31")
+    @Holds(promise = 22, says = "1103515245 times it and 12345, its rest by 2 to the 31")
     static void seedsPastTwoToThe31(Due d) {
         BigInteger two31 = BigInteger.TWO.pow(31);
         for (int seed : new int[] {0, 1, 2, 65535, 65536, 1 << 30, Edges.MOST - 1, Edges.MOST}) {
@@ -195,14 +195,14 @@ final class SeenEdges {
         }
     }
 
-    @Edge(promise = 22, says = "OUTSIDE: times (1 to 60), seed (0 at least), what")
+    @Holds(promise = 22, says = "OUTSIDE: times (1 to 60), seed (0 at least), what")
     static void tidesHowOftenSumsSeedAndNoMore(Due d) {
         for (int what : Edges.around(0, 2)) {
             Edges.refused(d, "tides(1, 1, " + what + ")", Edges::busy, x -> x.tides(1, 1, what), Edges.OUTSIDE);
         }
     }
 
-    @Edge(promise = 22, says = "STATE: no ROPE.")
+    @Holds(promise = 22, says = "STATE: no ROPE.")
     static void noTidesWithoutARope(Due d) {
         for (int what = 0; what <= 2; what++) {
             int told = what;
@@ -210,7 +210,7 @@ final class SeenEdges {
         }
     }
 
-    @Edge(promise = 22, says = "of several the first as told by each call")
+    @Holds(promise = 22, says = "of several the first as told by each call")
     static void tidesWithSeveralWrong(Due d) {
         Edges.refused(d, "tides(0, 1, 0) without a rope", Edges::none, x -> x.tides(0, 1, 0), Edges.OUTSIDE);
         Edges.refused(d, "tides(61, 1, 0) without a rope", Edges::none, x -> x.tides(61, 1, 0), Edges.OUTSIDE);
@@ -219,14 +219,14 @@ final class SeenEdges {
         Edges.refused(d, "tides(0, -1, 3)", Edges::busy, x -> x.tides(0, -1, 3), Edges.OUTSIDE);
     }
 
-    @Edge(promise = 22, says = "a MUSSEL by a DRAW of how many there are")
+    @Holds(promise = 22, says = "a MUSSEL by a DRAW of how many there are")
     static void tidesOfEveryLength(Due d) {
         for (int many = 2; many <= 8; many++) {
             for (int seed = 0; seed < 10; seed++) tidesAre(d, Edges.ropeOf(many), 30, seed);
         }
     }
 
-    @Edge(promise = 22, says = "TIDES by a SEED, as they would be")
+    @Holds(promise = 22, says = "TIDES by a SEED, as they would be")
     static void tidesOnlyTell(Due d) {
         for (int what = 0; what <= 2; what++) {
             int told = what;
@@ -235,7 +235,7 @@ final class SeenEdges {
         }
     }
 
-    @Edge(promise = 22, says = "TIDES by a SEED, as they would be")
+    @Holds(promise = 22, says = "TIDES by a SEED, as they would be")
     static void tidesGoPastWhatIsFull(Due d) {
         RopeVote x = Due.hung("m1+-0,m1+-0");
         int due = x.tides(60, 9, 1);
@@ -244,7 +244,7 @@ final class SeenEdges {
         d.is("count(5)", x.count(5), 297);
     }
 
-    @Edge(promise = 22, says = "all SUMS together (told as 10000 more)")
+    @Holds(promise = 22, says = "all SUMS together (told as 10000 more)")
     static void tidesOfNobody(Due d) {
         RopeVote x = Edges.eight();
         x.cut(0);

@@ -12,7 +12,7 @@ final class WouldEdges {
         d.is("say(" + mussel + ", 0, 1)", x.say(mussel, 0, 1), below);
     }
 
-    @Edge(promise = 15, says = "UNKNOWN: mussel, question")
+    @Holds(promise = 15, says = "UNKNOWN: mussel, question")
     static void sayOfTheLastMusselAndTheNext(Due d) {
         for (int many = 2; many <= 8; many++) {
             RopeVote x = Due.hung(ALIKE.substring(0, 6 * many - 1));
@@ -23,23 +23,23 @@ final class WouldEdges {
         Edges.refused(d, "say(4, 0, 0)", Edges::busy, x -> x.say(Edges.BUSY, 0, 0), Edges.UNKNOWN);
     }
 
-    @Edge(promise = 15, says = "UNKNOWN: mussel, question")
+    @Holds(promise = 15, says = "UNKNOWN: mussel, question")
     static void sayOnTheLastQuestionAndTheNext(Due d) {
         d.is("say(1, 2, 0)", Edges.two().say(1, 2, 0), 1);
         for (int q : Edges.around(0, 2)) Edges.refused(d, "say(0, " + q + ", 0)", Edges::busy, x -> x.say(0, q, 0), Edges.UNKNOWN);
     }
 
-    @Edge(promise = 15, says = "UNKNOWN: mussel, question")
+    @Holds(promise = 15, says = "UNKNOWN: mussel, question")
     static void sayWithoutARope(Due d) {
         Edges.refused(d, "say(0, 0, 0)", Edges::none, x -> x.say(0, 0, 0), Edges.UNKNOWN);
     }
 
-    @Edge(promise = 15, says = "OUTSIDE (it is not as told)")
+    @Holds(promise = 15, says = "OUTSIDE (it is not as told)")
     static void sayAboveBelowAndNoMore(Due d) {
         for (int what : Edges.around(0, 1)) Edges.refused(d, "say(0, 0, " + what + ")", Edges::busy, x -> x.say(0, 0, what), Edges.OUTSIDE);
     }
 
-    @Edge(promise = 15, says = "of several the first as told by each call")
+    @Holds(promise = 15, says = "of several the first as told by each call")
     static void sayWithSeveralWrong(Due d) {
         for (int what : new int[] {-1, 2}) {
             Edges.refused(d, "say(4, 0, " + what + ")", Edges::busy, x -> x.say(Edges.BUSY, 0, what), Edges.UNKNOWN);
@@ -48,14 +48,14 @@ final class WouldEdges {
         }
     }
 
-    @Edge(promise = 15, says = "(nobody is, if nothing is)")
+    @Holds(promise = 15, says = "(nobody is, if nothing is)")
     static void nobodyHasSay(Due d) {
         for (String text : new String[] {"m1000,m1000", "m1-00,e9-00", "c1+00,k9+00"}) {
             for (int m = 0; m < 2; m++) sayIs(d, Due.hung(text), m, 0, 1);
         }
     }
 
-    @Edge(promise = 15, says = "if all that are FELT at the rail join one behind the other")
+    @Holds(promise = 15, says = "if all that are FELT at the rail join one behind the other")
     static void whoIsNotFeltHasNoSay(Due d) {
         RopeVote x = Due.hung("m1+00,m9+00,m1+00");
         sayIs(d, x, 0, 0, 1);
@@ -68,7 +68,7 @@ final class WouldEdges {
         for (int m = 0; m < 3; m++) sayIs(d, x, m, 0, 1);
     }
 
-    @Edge(promise = 15, says = "by whom that first comes to more than half of all that is PULLED for it")
+    @Holds(promise = 15, says = "by whom that first comes to more than half of all that is PULLED for it")
     static void halfIsNotMoreThanHalf(Due d) {
         // 2 against 1 and 1: half is 2. Who has 2 joins first: not yet; second or third: it is the one.
         RopeVote x = Due.hung("m2+00,m1+00,m1+00");
@@ -82,7 +82,7 @@ final class WouldEdges {
         for (int m = 0; m < 3; m++) sayIs(d, x, m, 1, 3);
     }
 
-    @Edge(promise = 15, says = "(who PULLS nothing, or against, adds nothing)")
+    @Holds(promise = 15, says = "(who PULLS nothing, or against, adds nothing)")
     static void whoPullsAgainstTakesNothingAway(Due d) {
         RopeVote x = Due.hung("m1+00,m9-00,m1+00,m9000");
         for (int weight : new int[] {9, 1}) {
@@ -94,12 +94,12 @@ final class WouldEdges {
         }
     }
 
-    @Edge(promise = 15, says = "what = 0 above, 1 below, in lowest terms (0 of 1)")
+    @Holds(promise = 15, says = "what = 0 above, 1 below, in lowest terms (0 of 1)")
     static void sayOfEightAlike(Due d) {
         for (int m = 0; m < 8; m++) sayIs(d, Due.hung(ALIKE), m, 1, 8);
     }
 
-    @Edge(promise = 15, says = "---- what would be")
+    @Holds(promise = 15, says = "---- what would be")
     static void sayOnlyTells(Due d) {
         Edges.told(d, "say(0, 0, 0)", Edges::two, x -> x.say(0, 0, 0), 1);
         Edges.told(d, "say(1, 0, 0)", Edges::two, x -> x.say(1, 0, 0), 0);
@@ -112,19 +112,19 @@ final class WouldEdges {
         d.is("chance(" + question + ", " + tenths + ", 1)", x.chance(question, tenths, 1), below);
     }
 
-    @Edge(promise = 16, says = "UNKNOWN: question")
+    @Holds(promise = 16, says = "UNKNOWN: question")
     static void chanceOfTheLastQuestionAndTheNext(Due d) {
         chanceIs(d, Edges.two(), 0, 0, 0, 1);
         chanceIs(d, Edges.two(), 2, 0, 1, 1);
         for (int q : Edges.around(0, 2)) Edges.refused(d, "chance(" + q + ", 0, 0)", Edges::busy, x -> x.chance(q, 0, 0), Edges.UNKNOWN);
     }
 
-    @Edge(promise = 16, says = "UNKNOWN: question")
+    @Holds(promise = 16, says = "UNKNOWN: question")
     static void chanceWithoutARope(Due d) {
         Edges.refused(d, "chance(0, 0, 0)", Edges::none, x -> x.chance(0, 0, 0), Edges.UNKNOWN);
     }
 
-    @Edge(promise = 16, says = "OUTSIDE: tenths (0 to 10), what")
+    @Holds(promise = 16, says = "OUTSIDE: tenths (0 to 10), what")
     static void theLastTenthsAndTheNext(Due d) {
         chanceIs(d, Due.hung(ALIKE), 0, 0, 1, 1);
         chanceIs(d, Due.hung(ALIKE), 0, 10, 0, 1);
@@ -133,14 +133,14 @@ final class WouldEdges {
         }
     }
 
-    @Edge(promise = 16, says = "OUTSIDE: tenths (0 to 10), what")
+    @Holds(promise = 16, says = "OUTSIDE: tenths (0 to 10), what")
     static void chanceAboveBelowAndNoMore(Due d) {
         for (int what : Edges.around(0, 1)) {
             Edges.refused(d, "chance(0, 3, " + what + ")", Edges::busy, x -> x.chance(0, 3, what), Edges.OUTSIDE);
         }
     }
 
-    @Edge(promise = 16, says = "of several the first as told by each call")
+    @Holds(promise = 16, says = "of several the first as told by each call")
     static void chanceWithSeveralWrong(Due d) {
         Edges.refused(d, "chance(3, 11, 0)", Edges::busy, x -> x.chance(3, 11, 0), Edges.UNKNOWN);
         Edges.refused(d, "chance(-1, 0, 2)", Edges::busy, x -> x.chance(-1, 0, 2), Edges.UNKNOWN);
@@ -149,7 +149,7 @@ final class WouldEdges {
         Edges.refused(d, "chance(0, 11, 2)", Edges::busy, x -> x.chance(0, 11, 2), Edges.OUTSIDE);
     }
 
-    @Edge(promise = 16, says = "what = 0 above, 1 below, in lowest terms (0 of 1)")
+    @Holds(promise = 16, says = "what = 0 above, 1 below, in lowest terms (0 of 1)")
     static void theGreatestPartsOfEight(Due d) {
         chanceIs(d, Due.hung(ALIKE), 0, 1, 99999999, 100000000);
         chanceIs(d, Due.hung(ALIKE), 0, 9, 56953279, 100000000);
@@ -160,7 +160,7 @@ final class WouldEdges {
         }
     }
 
-    @Edge(promise = 16, says = "if each MUSSEL that is FELT, by itself, lets go with so many tenths of 10")
+    @Holds(promise = 16, says = "if each MUSSEL that is FELT, by itself, lets go with so many tenths of 10")
     static void chanceOfNobodyAndOfOne(Due d) {
         RopeVote x = Due.hung(ALIKE);
         x.cut(1);
@@ -173,7 +173,7 @@ final class WouldEdges {
         for (int tenths = 0; tenths <= 10; tenths++) chanceIs(d, x, 0, tenths, 0, 1);
     }
 
-    @Edge(promise = 16, says = "it is CARRIED, if that is more than 0, LOST, if less, else it HANGS")
+    @Holds(promise = 16, says = "it is CARRIED, if that is more than 0, LOST, if less, else it HANGS")
     static void whatHangsIsNotCarried(Due d) {
         RopeVote x = Due.hung("m3+00,m3-00");
         chanceIs(d, x, 0, 0, 0, 1);
@@ -183,7 +183,7 @@ final class WouldEdges {
         chanceIs(d, x, 0, 5, 1, 2);
     }
 
-    @Edge(promise = 16, says = "---- what would be")
+    @Holds(promise = 16, says = "---- what would be")
     static void chanceOnlyTells(Due d) {
         Edges.told(d, "chance(0, 0, 0)", Edges::two, x -> x.chance(0, 0, 0), 0);
         Edges.told(d, "chance(2, 3, 1)", Edges::two, x -> x.chance(2, 3, 1), 10);
@@ -196,7 +196,7 @@ final class WouldEdges {
         d.is("cuts(0, " + out + ", 1)", x.cuts(0, out, 1), which);
     }
 
-    @Edge(promise = 17, says = "UNKNOWN: question")
+    @Holds(promise = 17, says = "UNKNOWN: question")
     static void cutsOfTheLastQuestionAndTheNext(Due d) {
         d.is("cuts(0, -1, 0)", Edges.two().cuts(0, -1, 0), 0);
         d.is("cuts(2, 1, 0)", Edges.two().cuts(2, 1, 0), 0);
@@ -204,17 +204,17 @@ final class WouldEdges {
         Edges.refused(d, "cuts(0, 0, 0) without a rope", Edges::none, x -> x.cuts(0, 0, 0), Edges.UNKNOWN);
     }
 
-    @Edge(promise = 17, says = "OUTSIDE: out (1, 0, -1), what")
+    @Holds(promise = 17, says = "OUTSIDE: out (1, 0, -1), what")
     static void cutsForTheLastOutcomeAndTheNext(Due d) {
         for (int out : Edges.around(-1, 1)) Edges.refused(d, "cuts(0, " + out + ", 0)", Edges::busy, x -> x.cuts(0, out, 0), Edges.OUTSIDE);
     }
 
-    @Edge(promise = 17, says = "OUTSIDE: out (1, 0, -1), what")
+    @Holds(promise = 17, says = "OUTSIDE: out (1, 0, -1), what")
     static void cutsHowFewWhichAndNoMore(Due d) {
         for (int what : Edges.around(0, 1)) Edges.refused(d, "cuts(0, 0, " + what + ")", Edges::busy, x -> x.cuts(0, 0, what), Edges.OUTSIDE);
     }
 
-    @Edge(promise = 17, says = "of several the first as told by each call")
+    @Holds(promise = 17, says = "of several the first as told by each call")
     static void cutsWithSeveralWrong(Due d) {
         Edges.refused(d, "cuts(3, 2, 0)", Edges::busy, x -> x.cuts(3, 2, 0), Edges.UNKNOWN);
         Edges.refused(d, "cuts(-1, 0, 2)", Edges::busy, x -> x.cuts(-1, 0, 2), Edges.UNKNOWN);
@@ -222,7 +222,7 @@ final class WouldEdges {
         Edges.refused(d, "cuts(0, -2, -1)", Edges::busy, x -> x.cuts(0, -2, -1), Edges.OUTSIDE);
     }
 
-    @Edge(promise = 17, says = "by how few THREADS more, CUT (of whole ones), it does: how few; which, as bits")
+    @Holds(promise = 17, says = "by how few THREADS more, CUT (of whole ones), it does: how few; which, as bits")
     static void noCutIsNeeded(Due d) {
         cutsAre(d, Due.hung("m2+00,m1-00"), 1, 0, 0);
         cutsAre(d, Due.hung("m1+00,m1-00"), 0, 0, 0);
@@ -232,7 +232,7 @@ final class WouldEdges {
         cutsAre(d, x, 0, 0, 0);
     }
 
-    @Edge(promise = 17, says = "of like ones the least; none")
+    @Holds(promise = 17, says = "of like ones the least; none")
     static void noCutHelps(Due d) {
         cutsAre(d, Due.hung("m2+00,m1-00"), -1, Edges.NONE, Edges.NONE);
         cutsAre(d, Due.hung("m1000,m1000"), 1, Edges.NONE, Edges.NONE);
@@ -244,14 +244,14 @@ final class WouldEdges {
         Edges.told(d, "cuts(0, 1, 0)", () -> Due.hung("m1000,m1000"), y -> y.cuts(0, 1, 0), Edges.NONE);
     }
 
-    @Edge(promise = 17, says = "of like ones the least; none")
+    @Holds(promise = 17, says = "of like ones the least; none")
     static void theFirstThreadAndTheLast(Due d) {
         cutsAre(d, Due.hung(ALIKE), 0, 1, 1);
         cutsAre(d, Due.hung("m1+00,m1+00,m1+00,m1+00,m1+00,m1+00,m1+00,m9-00"), 1, 1, 2);
         cutsAre(d, Due.hung("m9-00,m1+00,m1+00,m1+00,m1+00,m1+00,m5+00,m9-00"), 1, 1, 128);
     }
 
-    @Edge(promise = 17, says = "(of whole ones)")
+    @Holds(promise = 17, says = "(of whole ones)")
     static void whatIsCutIsNotCutAgain(Due d) {
         RopeVote x = Due.hung("m1-00,m2+00,m9-00,m9+00");
         cutsAre(d, x, -1, 1, 2);
@@ -261,7 +261,7 @@ final class WouldEdges {
         cutsAre(d, x, 0, 1, 1);
     }
 
-    @Edge(promise = 17, says = "---- what would be")
+    @Holds(promise = 17, says = "---- what would be")
     static void cutsOnlyTell(Due d) {
         Edges.told(d, "cuts(0, 1, 1)", Edges::two, x -> x.cuts(0, 1, 1), 2);
         Edges.told(d, "cuts(1, 1, 1)", Edges::two, x -> x.cuts(1, 1, 1), Edges.NONE);
@@ -280,7 +280,7 @@ final class WouldEdges {
         d.is("fewTurns(0, " + out + ", 1)", x.fewTurns(0, out, 1), which);
     }
 
-    @Edge(promise = 18, says = "STATE: fewTurns() was done 20 times")
+    @Holds(promise = 18, says = "STATE: fewTurns() was done 20 times")
     static void theLastFewTurnsAndTheNext(Due d) {
         RopeVote x = Edges.two();
         for (int time = 1; time <= 20; time++) {
@@ -293,7 +293,7 @@ final class WouldEdges {
         Edges.refused(d, "fewTurns(0, 1, 0)", WouldEdges::turnedTwenty, y -> y.fewTurns(0, 1, 0), Edges.STATE);
     }
 
-    @Edge(promise = 18, says = "STATE: fewTurns() was done 20 times")
+    @Holds(promise = 18, says = "STATE: fewTurns() was done 20 times")
     static void twentyTimesGoOnPastRopesAndImages(Due d) {
         RopeVote x = Edges.two();
         x.image();
@@ -306,7 +306,7 @@ final class WouldEdges {
         d.is("count(11)", x.count(11), 20);
     }
 
-    @Edge(promise = 18, says = "they change nothing")
+    @Holds(promise = 18, says = "they change nothing")
     static void refusedFewTurnsAreNotDone(Due d) {
         Edges.refused(d, "fewTurns(3, 0, 0)", Edges::busy, x -> x.fewTurns(3, 0, 0), Edges.UNKNOWN);
         Edges.refused(d, "fewTurns(0, 2, 0)", Edges::busy, x -> x.fewTurns(0, 2, 0), Edges.OUTSIDE);
@@ -318,7 +318,7 @@ final class WouldEdges {
         d.is("fewTurns(0, -1, 0)", x.fewTurns(0, -1, 0), 0);
     }
 
-    @Edge(promise = 18, says = "UNKNOWN: question")
+    @Holds(promise = 18, says = "UNKNOWN: question")
     static void turnsOfTheLastQuestionAndTheNext(Due d) {
         d.is("fewTurns(0, -1, 0)", Edges.two().fewTurns(0, -1, 0), 0);
         d.is("fewTurns(2, 1, 0)", Edges.two().fewTurns(2, 1, 0), 0);
@@ -328,21 +328,21 @@ final class WouldEdges {
         Edges.refused(d, "fewTurns(0, 0, 0) without a rope", Edges::none, x -> x.fewTurns(0, 0, 0), Edges.UNKNOWN);
     }
 
-    @Edge(promise = 18, says = "OUTSIDE: out (1, 0, -1), what")
+    @Holds(promise = 18, says = "OUTSIDE: out (1, 0, -1), what")
     static void turnsForTheLastOutcomeAndTheNext(Due d) {
         for (int out : Edges.around(-1, 1)) {
             Edges.refused(d, "fewTurns(0, " + out + ", 0)", Edges::busy, x -> x.fewTurns(0, out, 0), Edges.OUTSIDE);
         }
     }
 
-    @Edge(promise = 18, says = "OUTSIDE: out (1, 0, -1), what")
+    @Holds(promise = 18, says = "OUTSIDE: out (1, 0, -1), what")
     static void turnsHowFewWhichAndNoMore(Due d) {
         for (int what : Edges.around(0, 1)) {
             Edges.refused(d, "fewTurns(0, 0, " + what + ")", Edges::busy, x -> x.fewTurns(0, 0, what), Edges.OUTSIDE);
         }
     }
 
-    @Edge(promise = 18, says = "of several the first as told by each call")
+    @Holds(promise = 18, says = "of several the first as told by each call")
     static void fewTurnsWithSeveralWrong(Due d) {
         Edges.refused(d, "fewTurns(3, 2, 2)", Edges::busy, x -> x.fewTurns(3, 2, 2), Edges.UNKNOWN);
         Edges.refused(d, "fewTurns(0, 2, 2) without a rope", Edges::none, x -> x.fewTurns(0, 2, 2), Edges.UNKNOWN);
@@ -352,7 +352,7 @@ final class WouldEdges {
         Edges.refused(d, "fewTurns(3, 2, 2), 20 done", WouldEdges::turnedTwenty, x -> x.fewTurns(3, 2, 2), Edges.UNKNOWN);
     }
 
-    @Edge(promise = 18, says = "of like ones the least; none")
+    @Holds(promise = 18, says = "of like ones the least; none")
     static void nobodyCanTurnIt(Due d) {
         RopeVote x = Edges.eight();
         x.cut(0);
@@ -364,7 +364,7 @@ final class WouldEdges {
         d.is("one that finds none is done, too: count(11)", knots.count(11), 2);
     }
 
-    @Edge(promise = 18, says = "by how few MUSSELS that LEAN otherwise then on it (each any way), it does")
+    @Holds(promise = 18, says = "by how few MUSSELS that LEAN otherwise then on it (each any way), it does")
     static void nobodyAndAllMustTurn(Due d) {
         turnsAre(d, Due.hung(ALIKE), 1, 0, 0);
         RopeVote x = Due.hung("m1+00,m1+00,m3+00");
@@ -378,13 +378,13 @@ final class WouldEdges {
         turnsAre(d, Due.hung(ALIKE), -1, 5, 31);
     }
 
-    @Edge(promise = 18, says = "of like ones the least; none")
+    @Holds(promise = 18, says = "of like ones the least; none")
     static void theLastMusselAlone(Due d) {
         turnsAre(d, Due.hung("m1+00,m1-00,m1+00,m1-00,m1+00,m1-00,m1+00,m2-00"), 0, 1, 2);
         turnsAre(d, Due.hung("k1+00,k1000,k1000,k1000,k1000,k1000,k1000,m2-00"), 1, 1, 128);
     }
 
-    @Edge(promise = 18, says = "---- what would be")
+    @Holds(promise = 18, says = "---- what would be")
     static void fewTurnsTurnNobody(Due d) {
         RopeVote x = Edges.busy();
         RopeVote twin = Edges.busy();
@@ -400,30 +400,30 @@ final class WouldEdges {
         d.is("settle(1)", x.settle(1), first);
     }
 
-    @Edge(promise = 19, says = "OUTSIDE; STATE: no ROPE.")
+    @Holds(promise = 19, says = "OUTSIDE; STATE: no ROPE.")
     static void settleHowManyFirstAndNoMore(Due d) {
         for (int what : Edges.around(0, 1)) Edges.refused(d, "settle(" + what + ")", Edges::busy, x -> x.settle(what), Edges.OUTSIDE);
     }
 
-    @Edge(promise = 19, says = "OUTSIDE; STATE: no ROPE.")
+    @Holds(promise = 19, says = "OUTSIDE; STATE: no ROPE.")
     static void nothingSettlesWithoutARope(Due d) {
         Edges.refused(d, "settle(0)", Edges::none, x -> x.settle(0), Edges.STATE);
         Edges.refused(d, "settle(1)", Edges::none, x -> x.settle(1), Edges.STATE);
     }
 
-    @Edge(promise = 19, says = "of several the first as told by each call")
+    @Holds(promise = 19, says = "of several the first as told by each call")
     static void settleWithSeveralWrong(Due d) {
         for (int what : Edges.around(0, 1)) Edges.refused(d, "settle(" + what + ")", Edges::none, x -> x.settle(what), Edges.OUTSIDE);
     }
 
-    @Edge(promise = 19, says = "behind how many TIDES, the fewest (1 at least)")
+    @Holds(promise = 19, says = "behind how many TIDES, the fewest (1 at least)")
     static void whatHasSettledSettlesBehindOne(Due d) {
         settleIs(d, Due.hung(ALIKE), 1, 0);
         settleIs(d, Due.hung("c1+-0,c1-+0"), 1, 0);
         settleIs(d, Due.hung("m1000,m1000"), 1, 0);
     }
 
-    @Edge(promise = 19, says = "behind how many they did so first (0: as now)")
+    @Holds(promise = 19, says = "behind how many they did so first (0: as now)")
     static void theLongestSettling(Due d) {
         for (int many = 2; many <= 8; many++) {
             String text = "m1+00,m1000,m1000,m1000,m1000,m1000,m1000,m1000".substring(0, 6 * many - 1);
@@ -431,7 +431,7 @@ final class WouldEdges {
         }
     }
 
-    @Edge(promise = 19, says = "all MUSSELS LEAN on all QUESTIONS as they did behind fewer TIDES")
+    @Holds(promise = 19, says = "all MUSSELS LEAN on all QUESTIONS as they did behind fewer TIDES")
     static void eachQuestionAndEachMusselCounts(Due d) {
         // Of eight only one goes along, all others stay: it alone tells that the leans are not as before.
         for (int m = 0; m < 8; m++) {
@@ -448,7 +448,7 @@ final class WouldEdges {
         d.is("felt or not, settle(0)", x.settle(0), 2);
     }
 
-    @Edge(promise = 19, says = "---- what would be")
+    @Holds(promise = 19, says = "---- what would be")
     static void settleOnlyTells(Due d) {
         Edges.told(d, "settle(0)", Edges::two, x -> x.settle(0), 2);
         Edges.told(d, "settle(1)", Edges::two, x -> x.settle(1), 1);

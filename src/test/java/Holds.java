@@ -3,10 +3,10 @@ import java.lang.annotation.Retention;
 import java.lang.annotation.RetentionPolicy;
 import java.lang.annotation.Target;
 
-/** A test of one boundary case: of which promise, and the words of the document that name it. */
+/** A test that the class holds some words of the document: by which promise, and which words. */
 @Retention(RetentionPolicy.RUNTIME)
 @Target(ElementType.METHOD)
-@interface Edge {
+@interface Holds {
     int promise();
 
     String says();
